@@ -17,7 +17,6 @@ public final class LineDispatch {
     private final boolean[] kept = new boolean[IMAGES];
     private final Sheet[] sheets = new Sheet[SHEETS];
     private final Postures postures = new Postures();
-    private final Desk desk = new Desk(postures);
     private final Reader reader = new Reader();
     private int latestTorn;
 
@@ -126,7 +125,7 @@ public final class LineDispatch {
             return BAD;
         }
         postures.learn(line);
-        return desk.against(line, t);
+        return against(line, t);
     }
 
     public int who(int t) {
@@ -134,7 +133,12 @@ public final class LineDispatch {
             return BAD;
         }
         postures.learn(line);
-        return desk.byWhom(line, t);
+        switch (against(line, t)) {
+            case 3: return line.runnerIn(line.sectionAhead(t, line.left[t]));
+            case 4: return postures.firstAhead(line, t);
+            case 5: return postures.firstLostBehind(line, t);
+            default: return NONE;
+        }
     }
 
     public int order(int i) {
@@ -183,7 +187,7 @@ public final class LineDispatch {
             return BAD;
         }
         postures.learn(line);
-        if (desk.against(line, t) != 0) {
+        if (against(line, t) != 0) {
             return STATE;
         }
         line.depart(t);
@@ -202,7 +206,7 @@ public final class LineDispatch {
             return BAD;
         }
         postures.learn(line);
-        return desk.letAllGo(line, rule);
+        return letAllGo(line, rule);
     }
 
     public int journal(int i, int what) {
@@ -220,7 +224,24 @@ public final class LineDispatch {
     }
 
     public int add(int from, int to, int length) {
-        return enter(from, to, length);
+        if (!line.hasPlace(from) || !line.hasPlace(to) || from == to || length < 1 || length > LONGEST) {
+            return BAD;
+        }
+        if (line.trains >= MOST_TRAINS) {
+            return FULL;
+        }
+        line.openTrain(from, to, length);
+        postures.forget();
+        postures.learnRooms(line);
+        if (postures.holdsAll(line)) {
+            postures.learn(line);
+            if (postures.isSafe()) {
+                return line.trains;
+            }
+        }
+        line.trains--;
+        postures.forget();
+        return STATE;
     }
 
     public int drop(int t) {
@@ -247,7 +268,7 @@ public final class LineDispatch {
         for (int i = 0; i < n; i++) {
             next = next * 1103515245 + 12345;
             int got = (next >>> 16) & 0x7FFF;
-            if (enter(got % line.places, got / 8 % line.places, got / 64 % 6 + 1) > 0) {
+            if (add(got % line.places, got / 8 % line.places, got / 64 % 6 + 1) > 0) {
                 came++;
             }
         }
@@ -313,7 +334,7 @@ public final class LineDispatch {
                 latestTorn = fault;
                 return i;
             }
-            if (enterFrom(sheets[k].cells, first) < 0) {
+            if (addFrom(sheets[k].cells, first) < 0) {
                 line.trains = before;
                 postures.forget();
                 return -20 - i;
@@ -384,11 +405,58 @@ public final class LineDispatch {
         return postures.goOneByOne(line) == due;
     }
 
+    /** What stands against a TRAIN; the POSTURE as it is must be looked at. */
+    private int against(Line on, int t) {
+        if (on.status[t] != AT) {
+            return on.status[t] == DONE ? 1 : 2;
+        }
+        if (on.runnerIn(on.sectionAhead(t, on.left[t])) >= 0) {
+            return 3;
+        }
+        if (!postures.canStep(on, t)) {
+            return 4;
+        }
+        return postures.isSafeBehind(t) ? 0 : 5;
+    }
+
+    private int letAllGo(Line on, int rule) {
+        int n = 0;
+        for (int i = 0; i < on.trains; i++) {
+            int t = firstBy(on, rule);
+            if (t < 0) {
+                return n;
+            }
+            on.depart(t);
+            postures.look(on);
+            n++;
+        }
+        return n;
+    }
+
+    private int firstBy(Line on, int rule) {
+        int first = NONE;
+        for (int t = 0; t < on.trains; t++) {
+            if (against(on, t) == 0 && (first < 0 || isAhead(on, rule, t, first))) {
+                first = t;
+            }
+        }
+        return first;
+    }
+
+    private static boolean isAhead(Line on, int rule, int t, int other) {
+        if (rule == 0) {
+            return t < other;
+        }
+        int mine = on.minutesLeft(t);
+        int others = on.minutesLeft(other);
+        return rule == 1 ? mine < others : mine > others;
+    }
+
     private int howManyFree() {
         postures.learn(line);
         int free = 0;
         for (int t = 0; t < line.trains; t++) {
-            free += desk.against(line, t) == 0 ? 1 : 0;
+            free += against(line, t) == 0 ? 1 : 0;
         }
         return free;
     }
@@ -398,7 +466,7 @@ public final class LineDispatch {
         spare.copyFrom(line);
         // between two arrivals nothing changes that stands against a TRAIN, so those MINUTES are skipped
         for (int arrivals = 0; arrivals <= MOST_TRAINS * MOST_PLACES; arrivals++) {
-            desk.letAllGo(spare, rule);
+            letAllGo(spare, rule);
             int wait = spare.waitForNext();
             if (wait <= 0) {
                 break;
@@ -408,32 +476,11 @@ public final class LineDispatch {
         return summed ? sum(spare.when, spare.trains) : spare.latestEnd();
     }
 
-    private int enter(int from, int to, int length) {
-        if (!line.hasPlace(from) || !line.hasPlace(to) || from == to || length < 1 || length > LONGEST) {
-            return BAD;
-        }
-        if (line.trains >= MOST_TRAINS) {
-            return FULL;
-        }
-        line.openTrain(from, to, length);
-        postures.forget();
-        postures.learnRooms(line);
-        if (postures.holdsAll(line)) {
-            postures.learn(line);
-            if (postures.isSafe()) {
-                return line.trains;
-            }
-        }
-        line.trains--;
-        postures.forget();
-        return STATE;
-    }
-
-    private int enterFrom(int[] cells, int first) {
+    private int addFrom(int[] cells, int first) {
         if (first < 0 || first > cells.length - 3) {
             return BAD;
         }
-        return enter(cells[first], cells[first + 1], cells[first + 2]);
+        return add(cells[first], cells[first + 1], cells[first + 2]);
     }
 
     /** All that an IMAGE keeps: PLACES, TRAINS, CLOCK, THE JOURNAL. */
@@ -922,70 +969,6 @@ public final class LineDispatch {
             }
             placeAll(line);
             return came;
-        }
-    }
-
-    /** Lets TRAINS go; the POSTURES must have been learned of these TRAINS, and look at the one as it is. */
-    private static final class Desk {
-        private final Postures postures;
-
-        Desk(Postures postures) {
-            this.postures = postures;
-        }
-
-        int against(Line line, int t) {
-            if (line.status[t] != AT) {
-                return line.status[t] == DONE ? 1 : 2;
-            }
-            if (line.runnerIn(line.sectionAhead(t, line.left[t])) >= 0) {
-                return 3;
-            }
-            if (!postures.canStep(line, t)) {
-                return 4;
-            }
-            return postures.isSafeBehind(t) ? 0 : 5;
-        }
-
-        int byWhom(Line line, int t) {
-            switch (against(line, t)) {
-                case 3: return line.runnerIn(line.sectionAhead(t, line.left[t]));
-                case 4: return postures.firstAhead(line, t);
-                case 5: return postures.firstLostBehind(line, t);
-                default: return NONE;
-            }
-        }
-
-        int letAllGo(Line line, int rule) {
-            int n = 0;
-            for (int i = 0; i < line.trains; i++) {
-                int t = firstBy(line, rule);
-                if (t < 0) {
-                    return n;
-                }
-                line.depart(t);
-                postures.look(line);
-                n++;
-            }
-            return n;
-        }
-
-        private int firstBy(Line line, int rule) {
-            int first = NONE;
-            for (int t = 0; t < line.trains; t++) {
-                if (against(line, t) == 0 && (first < 0 || isAhead(line, rule, t, first))) {
-                    first = t;
-                }
-            }
-            return first;
-        }
-
-        private static boolean isAhead(Line line, int rule, int t, int other) {
-            if (rule == 0) {
-                return t < other;
-            }
-            int mine = line.minutesLeft(t);
-            int others = line.minutesLeft(other);
-            return rule == 1 ? mine < others : mine > others;
         }
     }
 
