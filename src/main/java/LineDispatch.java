@@ -327,6 +327,7 @@ public final class LineDispatch {
             return BAD;
         }
         int before = line.trains;
+        int[] cells = sheets[k].cells;
         for (int i = 0; i < n; i++) {
             int first = f + 3 * i;
             int fault = sheets[k].faultOfThree(lane, first);
@@ -334,7 +335,7 @@ public final class LineDispatch {
                 latestTorn = fault;
                 return i;
             }
-            if (addFrom(sheets[k].cells, first) < 0) {
+            if (add(cells[first], cells[first + 1], cells[first + 2]) < 0) {
                 line.trains = before;
                 postures.forget();
                 return -20 - i;
@@ -474,13 +475,6 @@ public final class LineDispatch {
             spare.passTime(wait);
         }
         return summed ? sum(spare.when, spare.trains) : spare.latestEnd();
-    }
-
-    private int addFrom(int[] cells, int first) {
-        if (first < 0 || first > cells.length - 3) {
-            return BAD;
-        }
-        return add(cells[first], cells[first + 1], cells[first + 2]);
     }
 
     /** All that an IMAGE keeps: PLACES, TRAINS, CLOCK, THE JOURNAL. */

@@ -145,6 +145,14 @@ public final class PromisesTest {
     faulty("place 1 2 3 99;", 2, 12);
     faulty("place 3;places 3;", 2, 8);
     faulty("plac 3;", 2, 0);
+    faulty("zzzzz 3;", 2, 0);
+    faulty("slace 3;", 2, 0);
+    faulty("placeplace 3;", 2, 0);
+    faulty("place 3;azbyz", 2, 8);
+    faulty("place 3;section 3;{", 1, 18);
+    faulty("place 3`", 1, 7);
+    faulty("place 3/", 1, 7);
+    faulty("place 3:", 1, 7);
     faulty("place 3;section ;", 2, 16);
     faulty("place 3;section 3 3;", 2, 18);
     faulty("place 3;train 0 1;", 2, 17);
@@ -627,6 +635,10 @@ public final class PromisesTest {
     due("leaves it, too", x.torn(), 3);
     x.read(2, 1, 4, 1);
     due("INDEX", x.torn(), 2);
+    x.sheet(1, 0, 0);
+    x.read(1, 0, 0, 1);
+    due("of no cells: INDEX, too", x.torn(), 2);
+    due("lay there", x.lay(1, 0, 1), -12);
     due("whole", x.read(2, 1, 0, 1), 1);
     due("no fault", x.torn(), 0);
     x.read(3, 1, 0, 1);
