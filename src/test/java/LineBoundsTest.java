@@ -184,6 +184,10 @@ public final class LineBoundsTest {
     whys(x, 1, NONE, 3, 2, 2, NONE);
     x.tick(1);
     whys(x, 1, NONE, 0, NONE, 0, NONE);
+    LineDispatch first = c.told(CROSSING);
+    first.let(0);
+    first.tick(1);
+    c.due("who() need not be asked behind why()", first.who(1), 1);
     c.sentence("why, who: BAD");
     c.bad("why", x::why, -1, 3, 4, MIN, MAX);
     c.bad("who", x::who, -1, 3, 4, MIN, MAX);
@@ -231,7 +235,14 @@ public final class LineBoundsTest {
     two.let(0);
     two.tick(1);
     c.due("one is done", two.why(2), 0);
+    LineDispatch done = c.told("place 9 9;place 9;place 9;train 0 1 1;train 1 2 1;train 0 2 1;");
+    done.let(0);
+    done.tick(1);
+    whys(done, 1, NONE, 0, NONE, 4, 1);
     c.sentence("who: 5 the first TRAIN that could not be DONE any more (of which no row of MOVES does)");
+    LineDispatch third = c.told("place 9 9 9;place 9;place 9;place 9;train 0 1 1;train 0 1 1;train 0 3 1;train 3 0 1;");
+    third.let(2);
+    whys(third, 3, 2, 3, 2, 2, NONE, 5, 2);
     LineDispatch lost = c.told("place 9 9;place 9;place 9;place 9;train 0 1 1;train 0 3 1;train 3 0 1;");
     lost.let(1);
     whys(lost, 3, 1, 2, NONE, 5, 1);
@@ -279,7 +290,10 @@ public final class LineBoundsTest {
     c.row("all but four, reach", c.told("place 9 9 9;".repeat(6) + "train 0 5 1;".repeat(3) + "train 5 0 1;")::reach, 1292, 1292);
     c.row("one of seven is not SAFE, reach", c.told("place 1;place 2;place 3;place 2;train 3 0 1;train 1 3 2;")::reach, 7, 6);
     // of 4 times 4 not both at 1, both at 2, nor past each other; not SAFE: at 1 and 2 against each other
-    c.row("against each other, reach", c.told(NARROW + "train 0 3 1;train 3 0 1;")::reach, 13, 12);
+    LineDispatch against = c.told(NARROW + "train 0 3 1;train 3 0 1;");
+    c.row("against each other, reach", against::reach, 13, 12);
+    against.let(0);
+    c.row("what can not be reached any more is left out, reach", against::reach, 7, 6);
   }
 
   private static void plan() {
@@ -296,6 +310,16 @@ public final class LineBoundsTest {
     plans(x, 10, 10);
     x.let(0);
     plans(x, 10, 10);
+    LineDispatch two = c.told("place 9;section 9;place 9;place 9;place 9;train 0 1 1;train 1 3 1;");
+    plans(two, 9, 9 + 2);
+    two.tick(20);
+    plans(two, 29, 29 + 22);
+    two.let(0);
+    two.tick(3);
+    plans(two, 29, 29 + 25);
+    plans(c.told("place 1;section 9;".repeat(5) + "place 1;train 0 5 1;"), 45, 45);
+    plans(c.told("place 9 9;place 9;place 9;place 9;place 9;place 9 9;train 0 5 1;train 0 5 1;train 5 0 1;train 5 0 1;"),
+        12, 5 + 6 + 11 + 12);
     c.sentence("plan: 1 .. summed (also of those that are DONE now; both 0 without TRAINS)");
     x.tick(60);
     plans(x, 10, 10);
@@ -415,6 +439,10 @@ public final class LineBoundsTest {
     LineDispatch w = c.told("place 9 9;place 9 9;place 9 9;train 0 1 1;train 1 0 1;train 1 2 1;train 2 1 1;");
     c.due("one in each section", w.send(1), 2);
     c.due("without trains", new LineDispatch().send(0), 0);
+    LineDispatch behind = c.told(CROSSING);
+    behind.let(0);
+    c.due("behind a let()", behind.send(0), 1);
+    c.due("who that was", behind.journal(1, 1), 2);
     c.sentence("send: BAD");
     c.bad("send", w::send, -1, 3, MIN, MAX);
     c.bad("send without trains", new LineDispatch()::send, -1, 3);
@@ -433,10 +461,11 @@ public final class LineBoundsTest {
     c.sentence("THE JOURNAL: who was LET go and when: by MINUTE, then by TRAIN");
     LineDispatch x = c.told("place 9;place 9;place 9;place 9;place 9;place 9;train 0 2 1;train 2 3 1;train 3 4 1;train 5 4 1;");
     c.due("no entry", x.journal(0, 0), NONE);
+    x.tick(7);
     for (int t : new int[] {3, 2, 1, 0}) x.let(t);
     x.tick(1);
     x.let(0);
-    int[][] want = {{0, 0, 0}, {0, 1, 2}, {0, 2, 3}, {0, 3, 5}, {1, 0, 1}};
+    int[][] want = {{7, 0, 0}, {7, 1, 2}, {7, 2, 3}, {7, 3, 5}, {8, 0, 1}};
     for (int i = 0; i < 5; i++) for (int w = 0; w < 3; w++) c.due("entry " + i + ", " + w, x.journal(i, w), want[i][w]);
     c.sentence("journal: BAD: i below 0, what; NONE: there are not so many");
     for (int i : new int[] {5, 60, 61, MAX}) c.due("not so many: " + i, x.journal(i, 0), NONE);
@@ -516,6 +545,13 @@ public final class LineBoundsTest {
       four.add(0, 1, 1);
     }
     c.due("those that are DONE are there, too", four.add(1, 0, 1), FULL);
+    four.drop(3);
+    four.drop(2);
+    c.due("in the stead of one that was DONE", four.add(0, 1, 7), 3);
+    c.row("it is AT its place", i -> four.train(2, i), 0, 1, 7, 0, 0, NONE, 1);
+    four.plan(0, 0);
+    Checks.tell(four, "place 9;place 9;train 1 0 1;");
+    c.row("as is one of a text", i -> four.train(0, i), 1, 0, 1, 1, 0, NONE, 1);
   }
 
   private static void drop() {
@@ -531,6 +567,8 @@ public final class LineBoundsTest {
     x.let(2);
     c.sentence("drop: A TRAIN goes that is AT a PLACE or DONE, those behind it are numbered one less");
     c.due("DONE", x.drop(1), 3);
+    c.row("from", t -> x.train(t, 0), 0, 3, 5, BAD);
+    c.row("to", t -> x.train(t, 1), 2, 4, 4, BAD);
     c.row("lengths", t -> x.train(t, 2), 3, 5, 6, BAD);
     c.row("what they do", t -> x.train(t, 4), 1, 1, 2, BAD);
     c.row("when", t -> x.train(t, 5), 2, 2, 1, BAD);
@@ -550,9 +588,20 @@ public final class LineBoundsTest {
     c.due("no entries", x.rule(5), 0);
     c.due("the clock stays", x.rule(2), 2);
     LineDispatch y = c.told("place 9;place 9;place 9;train 1 2 1;train 0 2 1;");
+    c.due("it stands against it", y.why(1), 4);
     c.due("AT a place", y.drop(0), 1);
     c.due("its room is free", y.why(0), 0);
     c.due("what is left", y.reach(0), 3);
+    LineDispatch z = c.told(CROSSING);
+    whys(z, 0, NONE, 4, 0, 4, 0);
+    c.row("order", z::order, 0, 2, 1, NONE);
+    z.drop(0);
+    c.row("order behind it", z::order, 1, 0, NONE);
+    whys(z, 5, 0, 0, NONE, BAD, BAD);
+    LineDispatch lengths = c.told("place 9 9;place 3 9;place 9;train 0 1 9;train 0 2 4;train 1 2 3;");
+    c.row("order of three", lengths::order, 0, 1, 2, NONE);
+    lengths.drop(0);
+    c.row("order by their lengths then", lengths::order, 0, 1, NONE);
   }
 
   private static void draw() {
@@ -643,6 +692,35 @@ public final class LineBoundsTest {
     c.due("image 1 is as it was kept", y.back(1), 2);
     c.due("its clock", y.rule(2), 1);
     c.due("both are still there", y.count(0), 2);
+    LineDispatch q = c.told(CROSSING);
+    q.tick(5);
+    q.let(0);
+    q.keep(0);
+    q.tick(1);
+    q.let(0);
+    q.tick(1);
+    q.drop(0);
+    q.let(1);
+    q.keep(1);
+    q.why(0);
+    q.back(0);
+    c.row("order of image 0", q::order, 0, 2, 1, NONE);
+    whys(q, 2, NONE, 3, 0, 0, NONE);
+    c.row("its entry", i -> q.journal(0, i), 5, 0, 2);
+    c.due("no other", q.journal(1, 0), NONE);
+    q.back(1);
+    c.row("order of image 1", q::order, 1, 0, NONE);
+    whys(q, 4, 1, 2, NONE, BAD, BAD);
+    c.row("its entry", i -> q.journal(0, i), 7, 1, 1);
+    c.due("no other", q.journal(1, 0), NONE);
+    LineDispatch other = c.told("place 9 9;place 9;place 9;place 9;train 0 3 1;train 3 0 1;");
+    other.keep(0);
+    other.drop(1);
+    other.add(0, 3, 1);
+    c.row("others that go the same way, why", other::why, 0, 0);
+    other.back(0);
+    other.let(0);
+    whys(other, 2, NONE, 5, 0);
     LineDispatch none = new LineDispatch();
     none.keep(0);
     c.due("of no trains", none.back(0), 0);

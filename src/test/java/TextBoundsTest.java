@@ -18,6 +18,11 @@ public final class TextBoundsTest {
   }
 
   private static void newObject() {
+    c.sentence("Answers: BAD -1, STATE -2, FULL -3, NONE -4");
+    c.due("BAD", LineDispatch.BAD, -1);
+    c.due("STATE", LineDispatch.STATE, -2);
+    c.due("FULL", LineDispatch.FULL, -3);
+    c.due("NONE", LineDispatch.NONE, -4);
     c.sentence("LineDispatch(): No PLACES, no TRAINS; SHEETS of nothing.");
     LineDispatch x = new LineDispatch();
     c.row("rule", x::rule, 0, 0, 0, 0, 0, 0, 1, 0, 0);
@@ -66,6 +71,15 @@ public final class TextBoundsTest {
     c.due("what comes behind", x.text(), 2);
     c.due("the first", x.place(0, 1), 3);
     c.due("the one that was cut is gone", x.place(1, 1), 5);
+    Checks.feedAll(x, "place 7;place 123;");
+    x.end(16);
+    c.due("a number that was cut", x.text(), -10 - 16);
+    Checks.feedAll(x, "place 7;places");
+    x.end(13);
+    c.due("a name that was cut", x.text(), -10 - 13);
+    Checks.feedAll(x, "place 7;place 9;");
+    x.end(8);
+    c.due("a line that was cut", x.text(), 1);
     Checks.feedAll(x, blanks(TAPE));
     c.bad("end of a full one", x::end, TAPE + 1);
     c.due("160 of 160", x.end(TAPE), TAPE);
@@ -84,6 +98,10 @@ public final class TextBoundsTest {
     c.faulty(blanks(TAPE - 12) + "train 0 1 1;", 6, 160);
     c.taken(blanks(TAPE - 8) + "place 3;", 1);
     c.taken("place1;" + "section1;".repeat(17), 18);
+    c.faulty(blanks(TAPE - 5) + "place", 2, 160);
+    c.faulty(blanks(TAPE - 6) + "place3", 2, 160);
+    c.faulty(blanks(TAPE - 3) + "123", 1, 157);
+    c.faulty(blanks(TAPE - 4) + "plac", 2, 156);
     c.sentence("text: THE TAPE (empty then, by a FAULT, too)");
     LineDispatch x = new LineDispatch();
     c.due("a fault", Checks.tell(x, "place 3;x"), -18);
@@ -226,7 +244,7 @@ public final class TextBoundsTest {
       c.faulty(start + ";", 2, start.length());
     }
     c.sentence("2 (a NAME that begins no line)");
-    for (String name : new String[] {"p", "plac", "lace", "places", "plaze", "s", "sectio", "sections", "ection", "sectiom",
+    for (String name : new String[] {"p", "plac", "lace", "places", "plaze", "olace", "qlace", "rection", "tection", "srain", "urain", "brain", "s", "sectio", "sections", "ection", "sectiom",
         "t", "trai", "trains", "rain", "traim", "line", "text", "a", "z", "zzzzz"}) {
       c.faulty(name + " 1;", 2, 0);
       c.faulty("place 1; " + name + ";", 2, 9);
