@@ -65,6 +65,23 @@ public final class ModelTest {
     return (random.nextInt(40) == 0 ? "0" : "") + v;
   }
 
+  /** One track almost everywhere and trains against each other: where who goes first matters. */
+  private String makeTightText() {
+    StringBuilder b = new StringBuilder();
+    int places = within(4, 6), last = places - 1;
+    for (int i = 0; i < places; i++) {
+      boolean wide = i == 0 || i == last || random.nextInt(3) == 0;
+      b.append("place ").append(within(2, 3)).append(wide ? " " + within(1, 3) : "").append(';');
+      if (random.nextInt(3) == 0) b.append("section ").append(within(1, 9)).append(';');
+    }
+    for (int i = within(1, 3); i > 0; i--) {
+      int start = random.nextInt(3) == 0 ? within(0, last) : random.nextBoolean() ? 0 : last;
+      int goal = start > last / 2 ? within(0, start - 1) : within(start + 1, last);
+      b.append("train ").append(start).append(' ').append(goal).append(' ').append(within(1, 2)).append(';');
+    }
+    return b.toString();
+  }
+
   private String makeText() {
     StringBuilder b = new StringBuilder();
     int places = random.nextInt(25) == 0 ? within(0, 7) : within(2, 6);
@@ -92,7 +109,7 @@ public final class ModelTest {
   }
 
   private void tellText() {
-    feedAll(makeText());
+    feedAll(random.nextInt(3) == 0 ? makeTightText() : makeText());
     if (random.nextInt(10) == 0) {
       int n = about(0, 10);
       due("end(" + n + ")", x.end(n), m.end(n));
